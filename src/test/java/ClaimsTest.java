@@ -15,6 +15,8 @@ public final class ClaimsTest {
         promise20And21Finder();
         promise20And21FinderOfJoined();
         promise20And21FinderOfRock();
+        promise20And21FinderByLastMark();
+        promise20And21FinderBesideARock();
         promise20And21FinderRefuses();
         promise22Claims();
         promise23Runs();
@@ -257,6 +259,40 @@ public final class ClaimsTest {
         finder(x, 2, 4);
         x.name(2, 1, 5, EchoRegistry.THING);
         finder(x, 2, 4);
+    }
+
+    private static void promise20And21FinderByLastMark() {
+        EchoRegistry x = new EchoRegistry();
+        x.sweep(0, 5, 1);
+        x.claim(4, 2);
+        x.name(0, 1, 5, EchoRegistry.ROCK);
+        x.name(1, 3, 5, EchoRegistry.WRECK);
+        for (int cell = 0; cell < 5; cell++) {
+            finder(x, cell, 4);
+        }
+        x.name(2, 4, 5, EchoRegistry.ROCK);
+        for (int cell = 0; cell < 5; cell++) {
+            finder(x, cell, EchoRegistry.NONE);
+        }
+        x.name(3, 0, 5, EchoRegistry.THING);
+        for (int cell = 0; cell < 5; cell++) {
+            finder(x, cell, 4);
+        }
+    }
+
+    /** An outing to few cells sees nothing of the one to many cells ahead of it. */
+    private static void promise20And21FinderBesideARock() {
+        EchoRegistry x = new EchoRegistry();
+        x.sweep(0, 3, 1);
+        x.sweep(50, 1, 1);
+        x.claim(4, 0);
+        x.claim(3, 50);
+        x.name(0, 1, 5, EchoRegistry.ROCK);
+        finder(x, 0, EchoRegistry.NONE);
+        finder(x, 50, 3);
+        finder(x, 1, EchoRegistry.NONE);
+        finder(x, 49, EchoRegistry.NONE);
+        finder(x, 50, 3);
     }
 
     private static void promise20And21FinderRefuses() {

@@ -297,6 +297,10 @@ final class Model {
         return finderOf(shape(cell));
     }
 
+    int finderBySoundings(int cell) {
+        return finder(cell);
+    }
+
     int claims() {
         return claims.size();
     }

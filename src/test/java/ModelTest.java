@@ -1,3 +1,10 @@
+import java.lang.reflect.InvocationTargetException;
+import java.lang.reflect.Method;
+import java.lang.reflect.Modifier;
+import java.util.Arrays;
+import java.util.HashMap;
+import java.util.Map;
+
 /** Long runs of mixed calls, 512 on each object, whose answers are those of the Model. */
 public final class ModelTest {
     private static final int RUNS = 500;
@@ -21,6 +28,9 @@ public final class ModelTest {
         -1, -2, 0, 1, 4, 5, 6, 9, 10, 11, 12, 13, 40, 59, 60, 61, 95, 96, 97, 14400, 14401, 100000, 100001,
         Integer.MAX_VALUE, Integer.MIN_VALUE,
     };
+
+    private static final Map<String, Method> FACE = methodsOf(EchoRegistry.class);
+    private static final Map<String, Method> DUE = methodsOf(Model.class);
 
     private static long seed;
 
@@ -51,8 +61,8 @@ public final class ModelTest {
             if (pick(25) == 0) {
                 args[pick(4)] = ODD[pick(ODD.length)];
             }
-            String told = "run " + run + ", call " + i + ": " + NAMES[call] + java.util.Arrays.toString(args);
-            Check.same(told, answer(x, NAMES[call], args), answer(model, NAMES[call], args));
+            String told = "run " + run + ", call " + i + ": " + NAMES[call] + Arrays.toString(args);
+            Check.same(told, answer(x, FACE.get(NAMES[call]), args), answer(model, DUE.get(NAMES[call]), args));
         }
     }
 
@@ -117,80 +127,28 @@ public final class ModelTest {
         }
     }
 
-    private static String answer(EchoRegistry x, String call, int[] a) {
-        try {
-            switch (call) {
-                case "sound": return told(x.sound(a[0], a[1]));
-                case "sweep": return told(x.sweep(a[0], a[1], a[2]));
-                case "shapes": return told(x.shapes());
-                case "shapeOf": return told(x.shapeOf(a[0]));
-                case "size": return told(x.size(a[0]));
-                case "top": return told(x.top(a[0]));
-                case "nameOf": return told(x.nameOf(a[0]));
-                case "titleAt": return told(x.titleAt(a[0], a[1]));
-                case "name": return told(x.name(a[0], a[1], a[2], a[3]));
-                case "raise": return told(x.raise(a[0], a[1], a[2], a[3]));
-                case "fill": return told(x.fill(a[0]));
-                case "air": return told(x.air(a[0]));
-                case "rest": return told(x.rest(a[0]));
-                case "longest": return told(x.longest(a[0], a[1]));
-                case "claim": return told(x.claim(a[0], a[1]));
-                case "renew": return told(x.renew(a[0]));
-                case "advance": return told(x.advance(a[0]));
-                case "minute": return told(x.minute());
-                case "finder": return told(x.finder(a[0]));
-                case "finderBySoundings": return told(x.finderBySoundings(a[0]));
-                case "claims": return told(x.claims());
-                case "runs": return Boolean.toString(x.runs(a[0]));
-                case "holds": return Boolean.toString(x.holds(a[0]));
-                case "things": return told(x.things());
-                case "shapeOfThing": return told(x.shapeOfThing(a[0]));
-                case "finderOfThing": return told(x.finderOfThing(a[0]));
-                case "reward": return told(x.reward(a[0]));
-                default: return told(x.kept());
+    private static Map<String, Method> methodsOf(Class<?> of) {
+        Map<String, Method> methods = new HashMap<>();
+        for (Method method : of.getDeclaredMethods()) {
+            if (!Modifier.isPrivate(method.getModifiers())) {
+                methods.put(method.getName(), method);
             }
-        } catch (RuntimeException e) {
-            return e.getClass().getName();
         }
+        return methods;
     }
 
-    private static String answer(Model x, String call, int[] a) {
-        try {
-            switch (call) {
-                case "sound": return told(x.sound(a[0], a[1]));
-                case "sweep": return told(x.sweep(a[0], a[1], a[2]));
-                case "shapes": return told(x.shapes());
-                case "shapeOf": return told(x.shapeOf(a[0]));
-                case "size": return told(x.size(a[0]));
-                case "top": return told(x.top(a[0]));
-                case "nameOf": return told(x.nameOf(a[0]));
-                case "titleAt": return told(x.titleAt(a[0], a[1]));
-                case "name": return told(x.name(a[0], a[1], a[2], a[3]));
-                case "raise": return told(x.raise(a[0], a[1], a[2], a[3]));
-                case "fill": return told(x.fill(a[0]));
-                case "air": return told(x.air(a[0]));
-                case "rest": return told(x.rest(a[0]));
-                case "longest": return told(x.longest(a[0], a[1]));
-                case "claim": return told(x.claim(a[0], a[1]));
-                case "renew": return told(x.renew(a[0]));
-                case "advance": return told(x.advance(a[0]));
-                case "minute": return told(x.minute());
-                case "finder", "finderBySoundings": return told(x.finder(a[0]));
-                case "claims": return told(x.claims());
-                case "runs": return Boolean.toString(x.runs(a[0]));
-                case "holds": return Boolean.toString(x.holds(a[0]));
-                case "things": return told(x.things());
-                case "shapeOfThing": return told(x.shapeOfThing(a[0]));
-                case "finderOfThing": return told(x.finderOfThing(a[0]));
-                case "reward": return told(x.reward(a[0]));
-                default: return told(x.kept());
-            }
-        } catch (RuntimeException e) {
-            return e.getClass().getName();
+    /** The answer as a text, or the name of the exception's class; what the call has no parameter for is left away. */
+    private static String answer(Object of, Method method, int[] args) {
+        Object[] taken = new Object[method.getParameterCount()];
+        for (int i = 0; i < taken.length; i++) {
+            taken[i] = args[i];
         }
-    }
-
-    private static String told(int answer) {
-        return Integer.toString(answer);
+        try {
+            return method.invoke(of, taken).toString();
+        } catch (InvocationTargetException e) {
+            return e.getCause().getClass().getName();
+        } catch (IllegalAccessException e) {
+            return "a call that can't be made";
+        }
     }
 }

@@ -151,7 +151,20 @@ public final class ShapesTest {
         x.sound(12, 1);
         Check.due("a row's end is no neighbour", x.shapeOf(12), 12);
         Check.due("nor its begin", x.shapeOf(11), 11);
+        upwards();
         spiral();
+    }
+
+    /** From the lowest cell down, along, and up again. */
+    private static void upwards() {
+        EchoRegistry x = new EchoRegistry();
+        x.sweep(12, 3, 1);
+        x.sound(0, 1);
+        x.sound(2, 1);
+        Check.due("the first row's end of the way", x.shapeOf(2), 0);
+        Check.due("one shape", x.shapes(), 1);
+        x.sound(13, 0);
+        Check.due("the way cut", x.shapeOf(14), 2);
     }
 
     /** A way to and fro over the chart, by which the lowest cell is far from the last. */

@@ -1,6 +1,7 @@
 /**
- * All that can be seen of an object, as a text; the object is used up by it. It takes some 300 calls, so
- * that up to 200 can stand ahead of it: the document promises nothing behind the 512th.
+ * What can be seen of an object, as a text; the object is used up by it. It takes some 300 calls, and some
+ * 400 with forty claims or sixty things, so that up to 100 can stand ahead of it: the document promises
+ * nothing behind the 512th.
  */
 final class Snapshot {
     private static final int CELLS = 96;
@@ -47,7 +48,7 @@ final class Snapshot {
         text.append(" claims ").append(claims);
         for (int claim = 0; claim < claims; claim++) {
             boolean runs = registry.runs(claim);
-            text.append(' ').append(runs).append(registry.holds(claim)).append(runs ? registry.renew(claim) : 0);
+            text.append(' ').append(runs ? registry.renew(claim) : 0);
         }
     }
 
@@ -57,7 +58,7 @@ final class Snapshot {
             int shape = registry.shapeOf(cell);
             text.append(' ').append(shape);
             if (shape == cell) {
-                text.append('n').append(registry.nameOf(cell)).append('f').append(registry.finder(cell));
+                text.append('f').append(registry.finder(cell));
             }
         }
     }
