@@ -27,11 +27,28 @@ final class Check {
         }
     }
 
+    /** The title at the cell has these signs, none behind them; no signs are due for a cell in no shape. */
+    static void title(EchoRegistry x, int cell, String due) {
+        StringBuilder text = new StringBuilder();
+        for (int place = 0; place < due.length(); place++) {
+            int sign = x.titleAt(cell, place);
+            text.append(sign == EchoRegistry.NONE ? "?" : Character.toString(sign));
+        }
+        same("title at " + cell, text.toString(), due);
+        due("behind the title at " + cell, x.titleAt(cell, due.length()), EchoRegistry.NONE);
+        due("far behind the title at " + cell, x.titleAt(cell, Integer.MAX_VALUE), EchoRegistry.NONE);
+    }
+
+    /** The finder of the cell, both by the shapes that are kept and by soundings. */
+    static void finder(EchoRegistry x, int cell, int due) {
+        due("finder of " + cell, x.finder(cell), due);
+        due("finder by soundings of " + cell, x.finderBySoundings(cell), due);
+    }
+
     /** The call, behind these calls on a new object, throws just this exception and changes nothing. */
     static void refused(String call, Class<? extends RuntimeException> due, Calls before, Calls refused) {
-        EchoRegistry asked = made(before);
-        same(call, thrownBy(asked, refused), due.getName());
-        same("what stands behind " + call, Snapshot.of(asked), Snapshot.of(made(before)));
+        same(call, thrownBy(made(before), refused), due.getName());
+        same("what stands behind " + call, Snapshot.of(() -> asked(before, refused)), Snapshot.of(() -> made(before)));
     }
 
     static void noSuch(String call, Calls before, Calls refused) {
@@ -49,6 +66,12 @@ final class Check {
     static EchoRegistry made(Calls before) {
         EchoRegistry registry = new EchoRegistry();
         before.on(registry);
+        return registry;
+    }
+
+    private static EchoRegistry asked(Calls before, Calls refused) {
+        EchoRegistry registry = made(before);
+        thrownBy(registry, refused);
         return registry;
     }
 

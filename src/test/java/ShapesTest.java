@@ -1,13 +1,9 @@
 /** Promises 1 to 9: a new object, soundings and shapes. */
 public final class ShapesTest {
-    private static final int[] NO_CELLS = {-1, 96, Integer.MIN_VALUE, Integer.MAX_VALUE};
-
     public static void main(String[] args) {
         promise1NewObject();
         promise2Sound();
-        promise2SoundRefuses();
         promise3Sweep();
-        promise3SweepRefuses();
         promise4Shapes();
         promise5ShapeOf();
         promise6Size();
@@ -16,8 +12,6 @@ public final class ShapesTest {
         promise8NameOfLastMark();
         promise9TitleAt();
         promise9TitleOfManySigns();
-        promise9TitleAtRefuses();
-        noSuchCell();
         Check.end("ShapesTest");
     }
 
@@ -56,18 +50,6 @@ public final class ShapesTest {
         Check.due("only that cell", x.sound(94, 0), 0);
     }
 
-    private static void promise2SoundRefuses() {
-        Check.Calls before = x -> x.sweep(0, 3, 4);
-        for (int cell : NO_CELLS) {
-            Check.noSuch("sound at " + cell, before, x -> x.sound(cell, 5));
-            Check.noSuch("sound at " + cell + " ahead of the height", before, x -> x.sound(cell, 10));
-        }
-        Check.outOfRange("sound 10", before, x -> x.sound(1, 10));
-        Check.outOfRange("sound -1", before, x -> x.sound(1, -1));
-        Check.outOfRange("sound the most", before, x -> x.sound(1, Integer.MAX_VALUE));
-        Check.outOfRange("sound the least", before, x -> x.sound(1, Integer.MIN_VALUE));
-    }
-
     private static void promise3Sweep() {
         EchoRegistry x = new EchoRegistry();
         Check.due("a whole row", x.sweep(12, 12, 2), 1);
@@ -82,24 +64,6 @@ public final class ShapesTest {
         Check.due("the last of a row", x.sweep(95, 1, 9), 4);
         Check.due("the same again", x.sweep(95, 1, 9), 4);
         Check.due("all gone", x.sweep(12, 12, 0), 1);
-    }
-
-    private static void promise3SweepRefuses() {
-        Check.Calls before = x -> x.sweep(0, 3, 4);
-        for (int cell : NO_CELLS) {
-            Check.noSuch("sweep at " + cell, before, x -> x.sweep(cell, 1, 1));
-            Check.noSuch("sweep at " + cell + " ahead of the rest", before, x -> x.sweep(cell, 0, 10));
-        }
-        int[] many = {0, -1, 13, Integer.MIN_VALUE, Integer.MAX_VALUE};
-        for (int cells : many) {
-            Check.outOfRange("sweep of " + cells, before, x -> x.sweep(0, cells, 1));
-            Check.outOfRange("sweep of " + cells + " from 11", before, x -> x.sweep(11, cells, 1));
-        }
-        Check.outOfRange("sweep over the row's end by one", before, x -> x.sweep(11, 2, 1));
-        Check.outOfRange("sweep over the row's end", before, x -> x.sweep(1, 12, 1));
-        Check.outOfRange("sweep over the chart's end", before, x -> x.sweep(94, 3, 1));
-        Check.outOfRange("sweep 10", before, x -> x.sweep(0, 3, 10));
-        Check.outOfRange("sweep -1", before, x -> x.sweep(0, 3, -1));
     }
 
     private static void promise4Shapes() {
@@ -252,62 +216,31 @@ public final class ShapesTest {
         Check.due("without the last one", x.nameOf(3), EchoRegistry.THING);
     }
 
-    private static void title(EchoRegistry x, int cell, String due) {
-        StringBuilder text = new StringBuilder();
-        for (int place = 0; place < due.length(); place++) {
-            int sign = x.titleAt(cell, place);
-            text.append(sign == EchoRegistry.NONE ? "?" : Character.toString(sign));
-        }
-        Check.same("title at " + cell, text.toString(), due);
-        Check.due("behind the title at " + cell, x.titleAt(cell, due.length()), EchoRegistry.NONE);
-        Check.due("far behind the title at " + cell, x.titleAt(cell, Integer.MAX_VALUE), EchoRegistry.NONE);
-    }
-
     private static void promise9TitleAt() {
         EchoRegistry x = new EchoRegistry();
-        title(x, 0, "");
+        Check.title(x, 0, "");
         x.sound(0, 1);
-        title(x, 0, "N0x1");
+        Check.title(x, 0, "N0x1");
         x.claim(5, 0);
-        title(x, 0, "N0x1f5");
+        Check.title(x, 0, "N0x1f5");
         x.name(0, 0, 5, EchoRegistry.WRECK);
-        title(x, 0, "W0x1f5");
+        Check.title(x, 0, "W0x1f5");
         x.name(1, 0, 5, EchoRegistry.THING);
-        title(x, 0, "T0x1f5");
+        Check.title(x, 0, "T0x1f5");
         x.name(2, 0, 5, EchoRegistry.ROCK);
-        title(x, 0, "R0x1");
+        Check.title(x, 0, "R0x1");
         x.sound(0, 0);
-        title(x, 0, "");
+        Check.title(x, 0, "");
     }
 
     private static void promise9TitleOfManySigns() {
         EchoRegistry x = new EchoRegistry();
         x.sweep(84, 12, 1);
         x.claim(0, 95);
-        title(x, 90, "N84x12f0");
-        title(x, 0, "");
+        Check.title(x, 90, "N84x12f0");
+        Check.title(x, 0, "");
         x.advance(14400);
         x.advance(14400);
-        title(x, 90, "N84x12");
-    }
-
-    private static void promise9TitleAtRefuses() {
-        Check.Calls before = x -> x.sweep(0, 2, 1);
-        Check.noSuch("place -1", before, x -> x.titleAt(0, -1));
-        Check.noSuch("the least place", before, x -> x.titleAt(0, Integer.MIN_VALUE));
-        Check.noSuch("place -1 of no shape", before, x -> x.titleAt(50, -1));
-        for (int cell : NO_CELLS) {
-            Check.noSuch("titleAt " + cell, before, x -> x.titleAt(cell, 0));
-        }
-    }
-
-    private static void noSuchCell() {
-        Check.Calls before = x -> x.sweep(0, 2, 1);
-        for (int cell : NO_CELLS) {
-            Check.noSuch("shapeOf " + cell, before, x -> x.shapeOf(cell));
-            Check.noSuch("size " + cell, before, x -> x.size(cell));
-            Check.noSuch("top " + cell, before, x -> x.top(cell));
-            Check.noSuch("nameOf " + cell, before, x -> x.nameOf(cell));
-        }
+        Check.title(x, 90, "N84x12");
     }
 }

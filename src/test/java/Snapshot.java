@@ -1,27 +1,28 @@
+import java.util.function.Supplier;
+
 /**
- * What can be seen of an object, as a text; the object is used up by it. It takes some 300 calls, and some
- * 400 with forty claims or sixty things, so that up to 100 can stand ahead of it: the document promises
- * nothing behind the 512th.
+ * What can be seen of an object, as a text. Looking uses an object up, so that each part is told of an object
+ * of its own, made anew: a part takes fewer than 300 calls, and up to 200 can stand ahead of it (the document
+ * promises nothing behind the 512th).
  */
 final class Snapshot {
     private static final int CELLS = 96;
+    private static final int COLUMNS = 12;
     private static final int DIVERS = 4;
     private static final int FINDERS = 6;
-    /** Marks are looked for in the first two rows alone, to which the tests' dives go. */
-    private static final int MARKED_CELLS = 24;
 
     private Snapshot() {
     }
 
-    static String of(EchoRegistry registry) {
+    static String of(Supplier<EchoRegistry> maker) {
         StringBuilder text = new StringBuilder();
-        tellDivers(registry, text);
-        tellThings(registry, text);
-        tellClaims(registry, text);
-        tellShapes(registry, text);
-        tellHeights(registry, text);
-        tellMarks(registry, text, 0);
-        tellMarks(registry, text, 1);
+        EchoRegistry first = maker.get();
+        tellDivers(first, text);
+        tellThings(first, text);
+        tellClaims(first, text);
+        tellShapes(maker.get(), text);
+        tellHeightsAndMarks(maker.get(), text, 0);
+        tellHeightsAndMarks(maker.get(), text, 1);
         return text.toString();
     }
 
@@ -47,8 +48,8 @@ final class Snapshot {
         int claims = registry.claims();
         text.append(" claims ").append(claims);
         for (int claim = 0; claim < claims; claim++) {
-            boolean runs = registry.runs(claim);
-            text.append(' ').append(runs ? registry.renew(claim) : 0);
+            text.append(registry.holds(claim) ? " holds " : " ");
+            text.append(registry.runs(claim) ? registry.renew(claim) : 0);
         }
     }
 
@@ -58,27 +59,27 @@ final class Snapshot {
             int shape = registry.shapeOf(cell);
             text.append(' ').append(shape);
             if (shape == cell) {
-                text.append('f').append(registry.finder(cell));
+                text.append('x').append(registry.size(cell)).append('t').append(registry.top(cell));
+                text.append('n').append(registry.nameOf(cell)).append('f').append(registry.finder(cell));
             }
-        }
-    }
-
-    private static void tellHeights(EchoRegistry registry, StringBuilder text) {
-        text.append(" heights");
-        for (int cell = 0; cell < CELLS; cell++) {
-            text.append(' ').append(registry.sound(cell, 0));
         }
     }
 
     /** Makes a shape of each second cell alone, so that it has the name of its own mark. */
-    private static void tellMarks(EchoRegistry registry, StringBuilder text, int odd) {
+    private static void tellHeightsAndMarks(EchoRegistry registry, StringBuilder text, int odd) {
+        text.append(" heights");
+        for (int cell = 0; cell < CELLS; cell++) {
+            text.append(' ').append(registry.sound(cell, isSecond(cell, odd) ? 1 : 0));
+        }
         text.append(" marks");
-        for (int cell = 0; cell < MARKED_CELLS; cell++) {
-            if ((cell / 12 + cell) % 2 == odd) {
-                registry.sound(cell, 1);
+        for (int cell = 0; cell < CELLS; cell++) {
+            if (isSecond(cell, odd)) {
                 text.append(' ').append(registry.nameOf(cell));
-                registry.sound(cell, 0);
             }
         }
+    }
+
+    private static boolean isSecond(int cell, int odd) {
+        return (cell / COLUMNS + cell) % 2 == odd;
     }
 }

@@ -1,7 +1,5 @@
 /** Promises 25 to 29: things and rewards. */
 public final class ThingsTest {
-    private static final int[] NO_THINGS = {-1, 1, 60, Integer.MIN_VALUE, Integer.MAX_VALUE};
-
     public static void main(String[] args) {
         promise25Things();
         promise26ShapeOfThing();
@@ -12,11 +10,6 @@ public final class ThingsTest {
         promise28And29WithoutFinder();
         promise28Reward();
         Check.end("ThingsTest");
-    }
-
-    private static void oneThing(EchoRegistry x) {
-        x.sound(0, 1);
-        x.raise(0, 0, 10, 50);
     }
 
     private static void promise25Things() {
@@ -43,9 +36,6 @@ public final class ThingsTest {
         x.sweep(4, 4, 0);
         Check.due("without the shape", x.shapeOfThing(1), 4);
         Check.due("the first one still", x.shapeOfThing(0), 5);
-        for (int thing : NO_THINGS) {
-            Check.noSuch("shapeOfThing " + thing, ThingsTest::oneThing, y -> y.shapeOfThing(thing));
-        }
     }
 
     private static void promise27FinderOfThing() {
@@ -67,9 +57,6 @@ public final class ThingsTest {
         x.raise(0, 1, 10, 50);
         Check.due("behind the term", x.finderOfThing(4), EchoRegistry.NONE);
         Check.due("the finder of then stays", x.finderOfThing(3), 3);
-        for (int thing : NO_THINGS) {
-            Check.noSuch("finderOfThing " + thing, ThingsTest::oneThing, y -> y.finderOfThing(thing));
-        }
     }
 
     /** Raises a thing of the value from a shape of finder 2 with the name; the law keeps the part. */
@@ -142,9 +129,5 @@ public final class ThingsTest {
         Check.due("the sum of the last finder", x.reward(5), 750);
         Check.due("a finder without claims", x.reward(1), 0);
         Check.due("the law's sum", x.kept(), 278);
-        int[] finders = {-1, 6, Integer.MIN_VALUE, Integer.MAX_VALUE};
-        for (int finder : finders) {
-            Check.noSuch("reward of " + finder, ThingsTest::oneThing, y -> y.reward(finder));
-        }
     }
 }
